@@ -1,0 +1,96 @@
+/** Promise 4: topUp. */
+public final class TopUpTest {
+    public static void main(String[] args) {
+        nothingGoesWithoutASecondBarrel();
+        aBarrelGetsWhatItLacks();
+        aBarrelGetsHalfAtMost();
+        theLastBarrelComesFirst();
+        whatGoesIsMixed();
+        aBarrelAtNineTenthsGetsNothing();
+        Check.end();
+    }
+
+    private static void nothingGoesWithoutASecondBarrel() {
+        VinegarLoft loft = new VinegarLoft();
+        Check.that("topUp() without barrels", loft.topUp(), 0.0);
+        loft.add(0, 50);
+        loft.fill(50);
+        Check.that("topUp() with one barrel", loft.topUp(), 0.0);
+        Check.that("litresIn(0)", loft.litresIn(0), 50.0);
+        loft.pourAway(0);
+        loft.add(0, 20);
+        Check.that("topUp() of an empty row", loft.topUp(), 0.0);
+        Check.that("litresIn(1)", loft.litresIn(1), 0.0);
+    }
+
+    private static void aBarrelGetsWhatItLacks() {
+        VinegarLoft loft = new VinegarLoft();
+        loft.add(0, 100);
+        loft.add(0, 33);
+        loft.fill(100);
+        double lack = 0.9 * 33;
+        Check.that("topUp()", loft.topUp(), lack);
+        Check.that("litresIn(1)", loft.litresIn(1), lack);
+        Check.that("litresIn(0)", loft.litresIn(0), 100.0 - lack);
+        Check.that("topUp() again", loft.topUp(), 0.0);
+    }
+
+    private static void aBarrelGetsHalfAtMost() {
+        VinegarLoft loft = new VinegarLoft();
+        loft.add(0, 100);
+        loft.add(0, 90);
+        loft.fill(31);
+        Check.that("topUp()", loft.topUp(), 15.5);
+        Check.that("litresIn(0)", loft.litresIn(0), 15.5);
+        Check.that("topUp() again", loft.topUp(), 7.75);
+        Check.that("litresIn(1)", loft.litresIn(1), 23.25);
+    }
+
+    private static void theLastBarrelComesFirst() {
+        VinegarLoft loft = new VinegarLoft();
+        loft.add(0, 80);
+        loft.add(0, 40);
+        loft.add(0, 20);
+        loft.fill(80);
+        Check.that("first topUp()", loft.topUp(), 36.0);
+        Check.that("litresIn(2)", loft.litresIn(2), 0.0);
+        Check.that("second topUp()", loft.topUp(), 18.0 + 18.0);
+        Check.that("litresIn(0)", loft.litresIn(0), 26.0);
+        Check.that("litresIn(1)", loft.litresIn(1), 36.0);
+        Check.that("litresIn(2)", loft.litresIn(2), 18.0);
+    }
+
+    private static void whatGoesIsMixed() {
+        VinegarLoft loft = new VinegarLoft();
+        loft.add(1, 70);
+        loft.add(2, 45);
+        loft.fill(70);
+        loft.topUp();
+        loft.year();
+        loft.fill(70);
+        double[] ahead = {loft.ageOf(0), loft.acidOf(0), loft.sugarOf(0)};
+        double[] before = {loft.ageOf(1), loft.acidOf(1), loft.sugarOf(1)};
+        double v = loft.litresIn(1);
+        double w = loft.topUp();
+        double all = v + w;
+        Check.that("what it lacks", w, 0.9 * 45 - v);
+        Check.that("age", loft.ageOf(1), (v * before[0] + w * ahead[0]) / all);
+        Check.that("acid", loft.acidOf(1), (v * before[1] + w * ahead[1]) / all);
+        Check.that("sugar", loft.sugarOf(1), (v * before[2] + w * ahead[2]) / all);
+        Check.that("age ahead", loft.ageOf(0), ahead[0]);
+        Check.that("acid ahead", loft.acidOf(0), ahead[1]);
+        Check.that("sugar ahead", loft.sugarOf(0), ahead[2]);
+    }
+
+    private static void aBarrelAtNineTenthsGetsNothing() {
+        VinegarLoft loft = new VinegarLoft();
+        loft.add(0, 100);
+        loft.add(0, 20);
+        loft.fill(100);
+        loft.topUp();
+        Check.that("litresIn(1)", loft.litresIn(1), 18.0);
+        loft.fill(100);
+        Check.that("topUp() at nine tenths", loft.topUp(), 0.0);
+        Check.that("litresIn(0)", loft.litresIn(0), 100.0);
+    }
+}
