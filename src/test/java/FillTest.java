@@ -56,11 +56,22 @@ public final class FillTest {
     }
 
     private static void aFullBarrelIsLeftAsItIs() {
-        VinegarLoft loft = new VinegarLoft();
-        loft.add(0, 10);
-        loft.fill(10);
-        Check.that("fill(1) into a full barrel", loft.fill(1), 0.0);
-        Check.that("litresIn", loft.litresIn(0), 10.0);
+        for (int size = 10; size <= 100; size++) {
+            VinegarLoft loft = new VinegarLoft();
+            loft.add(2, size);
+            for (int i = 0; i < 20; i++) {
+                loft.fill(100);
+                Check.that("litresIn", loft.litresIn(0), size);
+                double age = loft.ageOf(0);
+                double acid = loft.acidOf(0);
+                double sugar = loft.sugarOf(0);
+                Check.that("fill(1) into a full barrel", loft.fill(1), 0.0);
+                Check.that("ageOf", loft.ageOf(0), age);
+                Check.that("acidOf", loft.acidOf(0), acid);
+                Check.that("sugarOf", loft.sugarOf(0), sugar);
+                loft.year();
+            }
+        }
     }
 
     private static void wrongLitres() {

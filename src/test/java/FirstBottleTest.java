@@ -5,6 +5,7 @@ public final class FirstBottleTest {
         itIsTheYearInWhichABottleCanBeDrawn();
         aBottleMayComeLate();
         theFirstBarrelIsFilledToTheBrim();
+        oneBottleIsEnough();
         nothingChangesByAsking();
         Check.end();
     }
@@ -76,6 +77,20 @@ public final class FirstBottleTest {
             lived.year();
         }
         Check.that("firstBottleIn() of a nearly empty row", asked.firstBottleIn(), livedThrough(lived));
+    }
+
+    private static void oneBottleIsEnough() {
+        VinegarLoft loft = row(18, 50);
+        loft.fill(50);
+        for (int i = 0; i < 15; i++) {
+            loft.year();
+        }
+        Check.that("draw all but one", loft.draw(loft.drawable() - 1) > 0 ? 1 : 0, 1);
+        Check.that("drawable()", loft.drawable(), 1);
+        Check.that("firstBottleIn() with one left", loft.firstBottleIn(), 0);
+        loft.draw(1);
+        Check.that("drawable()", loft.drawable(), 0);
+        Check.that("firstBottleIn() with none left", loft.firstBottleIn() > 0 ? 1 : 0, 1);
     }
 
     private static void nothingChangesByAsking() {

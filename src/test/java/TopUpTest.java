@@ -7,6 +7,7 @@ public final class TopUpTest {
         theLastBarrelComesFirst();
         whatGoesIsMixed();
         aBarrelAtNineTenthsGetsNothing();
+        nothingComesFromAnEmptyBarrel();
         Check.end();
     }
 
@@ -92,5 +93,29 @@ public final class TopUpTest {
         loft.fill(100);
         Check.that("topUp() at nine tenths", loft.topUp(), 0.0);
         Check.that("litresIn(0)", loft.litresIn(0), 100.0);
+    }
+
+    /** Mixing 0.0 litres by the formula would change a last bit here and there. */
+    private static void nothingComesFromAnEmptyBarrel() {
+        for (int size = 10; size < 100; size++) {
+            VinegarLoft loft = new VinegarLoft();
+            loft.add(1, 100);
+            loft.add(2, size);
+            for (int i = 0; i < 5; i++) {
+                loft.fill(100);
+                loft.topUp();
+                loft.year();
+            }
+            loft.pourAway(0);
+            double litres = loft.litresIn(1);
+            double age = loft.ageOf(1);
+            double acid = loft.acidOf(1);
+            double sugar = loft.sugarOf(1);
+            Check.that("topUp() from an empty barrel", loft.topUp(), 0.0);
+            Check.that("litresIn(1)", loft.litresIn(1), litres);
+            Check.that("ageOf(1)", loft.ageOf(1), age);
+            Check.that("acidOf(1)", loft.acidOf(1), acid);
+            Check.that("sugarOf(1)", loft.sugarOf(1), sugar);
+        }
     }
 }
