@@ -8,6 +8,11 @@ public final class AddTest {
         thereAreAtMostEight();
         eachWoodLosesItsShare();
         aNewBarrelIsEmpty();
+        behindTheSmallestNothingFits();
+        behindABarrelEachSmallerSizeFits();
+        theEighthStandsAndTheNinthIsRefused();
+        anEmptiedBarrelKeepsItsPlaceAndItsSize();
+        aBarrelAddedLaterIsEmptyToo();
         Check.end();
     }
 
@@ -83,5 +88,73 @@ public final class AddTest {
         Check.that("acidOf", loft.acidOf(0), 0.0);
         Check.that("sugarOf", loft.sugarOf(0), 0.0);
         Check.that("tasteOf", loft.tasteOf(0), 0.0);
+    }
+
+    /** A barrel of 10 litres is the last one: a size below it is out of range by itself. */
+    private static void behindTheSmallestNothingFits() {
+        VinegarLoft loft = new VinegarLoft();
+        loft.add(0, 10);
+        for (int size = -1; size <= 101; size++) {
+            int asked = size;
+            Check.throwing("add(0, " + size + ") behind 10", IllegalArgumentException.class,
+                () -> loft.add(0, asked));
+        }
+        Check.that("barrels()", loft.barrels(), 1);
+    }
+
+    private static void behindABarrelEachSmallerSizeFits() {
+        for (int last = 11; last <= 100; last++) {
+            for (int size : new int[] {10, last - 1}) {
+                VinegarLoft loft = new VinegarLoft();
+                loft.add(0, last);
+                Check.that("add(1, " + size + ") behind " + last, loft.add(1, size), 1);
+            }
+            VinegarLoft full = new VinegarLoft();
+            full.add(0, last);
+            int same = last;
+            Check.throwing("add(1, " + last + ") behind " + last, IllegalArgumentException.class,
+                () -> full.add(1, same));
+        }
+    }
+
+    private static void theEighthStandsAndTheNinthIsRefused() {
+        VinegarLoft loft = new VinegarLoft();
+        for (int i = 0; i < 7; i++) {
+            loft.add(3, 17 - i);
+        }
+        Check.that("the eighth", loft.add(3, 10), 7);
+        Check.throwing("a ninth behind 10", IllegalArgumentException.class, () -> loft.add(3, 9));
+        VinegarLoft roomy = new VinegarLoft();
+        for (int i = 0; i < 8; i++) {
+            roomy.add(0, 100 - i);
+        }
+        roomy.pourAway(7);
+        for (int size : new int[] {10, 92}) {
+            Check.throwing("a ninth of " + size, IllegalStateException.class, () -> roomy.add(0, size));
+        }
+        Check.that("barrels()", roomy.barrels(), 8);
+    }
+
+    private static void anEmptiedBarrelKeepsItsPlaceAndItsSize() {
+        VinegarLoft loft = new VinegarLoft();
+        loft.add(0, 40);
+        loft.fill(40);
+        loft.pourAway(0);
+        Check.throwing("add(0, 40) behind an empty 40", IllegalArgumentException.class, () -> loft.add(0, 40));
+        Check.that("add(0, 39)", loft.add(0, 39), 1);
+        Check.that("fill(100) into the first one", loft.fill(100), 40.0);
+    }
+
+    private static void aBarrelAddedLaterIsEmptyToo() {
+        VinegarLoft loft = new VinegarLoft();
+        loft.add(0, 40);
+        loft.fill(40);
+        loft.year();
+        Check.that("add(1, 39)", loft.add(1, 39), 1);
+        Check.that("litresIn", loft.litresIn(1), 0.0);
+        Check.that("ageOf", loft.ageOf(1), 0.0);
+        Check.that("acidOf", loft.acidOf(1), 0.0);
+        Check.that("sugarOf", loft.sugarOf(1), 0.0);
+        Check.that("oldest()", loft.oldest(), 0);
     }
 }

@@ -4,6 +4,8 @@ public final class BarrelTest {
         whatABarrelHolds();
         theTaste();
         wrongBarrels();
+        theTasteOfNothing();
+        theLastNumberAndTheNext();
         Check.end();
     }
 
@@ -54,6 +56,30 @@ public final class BarrelTest {
                 Check.throwing("tasteOf" + of, due, () -> loft.tasteOf(barrel));
             }
             loft.add(0, 50 - count);
+        }
+    }
+
+    /** By the formula an empty barrel would taste -18.0. */
+    private static void theTasteOfNothing() {
+        VinegarLoft loft = new VinegarLoft();
+        loft.add(0, 60);
+        loft.add(0, 50);
+        loft.fill(60);
+        Check.that("tasteOf(1) never filled", loft.tasteOf(1), 0.0);
+        loft.pourAway(0);
+        Check.that("tasteOf(0) poured away", loft.tasteOf(0), 0.0);
+        loft.year();
+        Check.that("tasteOf(0) a year later", loft.tasteOf(0), 0.0);
+    }
+
+    private static void theLastNumberAndTheNext() {
+        VinegarLoft loft = new VinegarLoft();
+        for (int count = 1; count <= 8; count++) {
+            int next = count;
+            loft.add(0, 100 - count);
+            Check.that("litresIn(" + (count - 1) + ") of " + count, loft.litresIn(count - 1), 0.0);
+            Check.throwing("litresIn(" + count + ") of " + count, IndexOutOfBoundsException.class,
+                () -> loft.litresIn(next));
         }
     }
 }

@@ -28,6 +28,13 @@ final class Check {
         }
     }
 
+    /** What a test leans on: if it does not hold, the test shows nothing. */
+    static void holds(String what, boolean held) {
+        if (!held) {
+            tell(what, "no", "yes");
+        }
+    }
+
     /** The very class is asked for: an exception of a class below it is not the one that is due. */
     static void throwing(String what, Class<?> due, Call call) {
         String got = "nothing";

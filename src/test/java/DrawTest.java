@@ -12,6 +12,16 @@ public final class DrawTest {
         byRoundingAHairLessIsEmptyToo();
         byRoundingAHairMoreIsNotEmpty();
         wrongBottlesAndKinds();
+        exactlyAsManyAsThereAreAndOneMore();
+        oneAndAThousandMayBeAskedFor();
+        beforeAnyYearThereIsNothing();
+        whatIsLeftOfAYearIsNotAddedToTheNext();
+        withoutWhatIsBehindThePoint();
+        aQuarterOnTheBottle();
+        theAgeBeforeTheLastBottleCounts();
+        anEmptyRowGivesNothing();
+        ofSeveralOldestTheLastOneIsDrawnFrom();
+        whatIsFilledInLaterMayNotBeDrawn();
         Check.end();
     }
 
@@ -233,5 +243,134 @@ public final class DrawTest {
             Check.throwing("bottles(" + kind + ")", IllegalArgumentException.class, () -> loft.bottles(kind));
         }
         Check.that("drawable() after wrong calls", loft.drawable(), ready);
+    }
+
+    private static void exactlyAsManyAsThereAreAndOneMore() {
+        VinegarLoft exactly = aged(1, 100, 14);
+        int ready = exactly.drawable();
+        double litres = exactly.litresIn(0);
+        Check.holds("more than one", ready > 1);
+        Check.that("draw one less", exactly.draw(ready - 1), ready - 1);
+        Check.that("draw the last one", exactly.draw(1), 1);
+        Check.that("draw after the last one", exactly.draw(1), 0);
+        Check.that("bottles(YOUNG)", exactly.bottles(VinegarLoft.YOUNG), ready);
+        VinegarLoft all = aged(1, 100, 14);
+        Check.that("draw all", all.draw(ready), ready);
+        Check.that("litresIn", all.litresIn(0), litres - ready * 0.1);
+        Check.that("drawable()", all.drawable(), 0);
+        VinegarLoft more = aged(1, 100, 14);
+        Check.that("draw one more", more.draw(ready + 1), ready);
+        Check.that("litresIn", more.litresIn(0), litres - ready * 0.1);
+        Check.that("bottles(YOUNG)", more.bottles(VinegarLoft.YOUNG), ready);
+    }
+
+    private static void oneAndAThousandMayBeAskedFor() {
+        VinegarLoft loft = aged(1, 100, 14);
+        int ready = loft.drawable();
+        Check.that("draw(1)", loft.draw(1), 1);
+        Check.that("draw(1000)", loft.draw(1000), ready - 1);
+        Check.that("draw(1000) of nothing", loft.draw(1000), 0);
+        Check.that("draw(999) in a bare loft", new VinegarLoft().draw(999), 0);
+    }
+
+    private static void beforeAnyYearThereIsNothing() {
+        VinegarLoft loft = aged(1, 100, 0);
+        Check.that("drawable()", loft.drawable(), 0);
+        Check.that("draw(1)", loft.draw(1), 0);
+        Check.that("litresIn", loft.litresIn(0), 100.0);
+        Check.that("bottles(YOUNG)", loft.bottles(VinegarLoft.YOUNG), 0);
+    }
+
+    private static void whatIsLeftOfAYearIsNotAddedToTheNext() {
+        VinegarLoft loft = aged(1, 100, 12);
+        for (int i = 0; i < 5; i++) {
+            loft.year();
+            double may = 0.25 * loft.litresIn(0);
+            Check.that("drawable() in year " + i, loft.drawable(), (int) (may / 0.1));
+            loft.draw(i + 1);
+            may = may - (i + 1) * 0.1;
+            Check.that("drawable() then", loft.drawable(), (int) (may / 0.1));
+        }
+    }
+
+    /** Two barrels of the same old vinegar; the second one, of 39 litres, holds just 20.0 of it. */
+    private static VinegarLoft withTwentyOldLitres() {
+        VinegarLoft loft = aged(0, 40, 25);
+        loft.fill(40);
+        loft.add(0, 39);
+        loft.topUp();
+        Check.that("litresIn(1)", loft.litresIn(1), 20.0);
+        return loft;
+    }
+
+    /** 19.2 litres are left: a quarter is 4.8, and 4.8 / 0.1 is a hair below 48. */
+    private static void withoutWhatIsBehindThePoint() {
+        VinegarLoft loft = withTwentyOldLitres();
+        loft.setWarmth(38);
+        loft.year();
+        Check.that("litresIn(1)", loft.litresIn(1), 20.0 - 20.0 * 0.02 * (1.0 + 0.05 * (38 - 18)));
+        double may = 0.25 * loft.litresIn(1);
+        Check.holds("a hair below 48", may / 0.1 < 48.0 && may / 0.1 > 47.999999999);
+        Check.that("drawable()", loft.drawable(), 47);
+        Check.that("draw(48)", loft.draw(48), 47);
+    }
+
+    /** 19.6 litres are left: a quarter is 4.9, and 4.9 / 0.1 is 49. */
+    private static void aQuarterOnTheBottle() {
+        VinegarLoft loft = withTwentyOldLitres();
+        loft.year();
+        double litres = loft.litresIn(1);
+        Check.that("a quarter in bottles", 0.25 * litres / 0.1, 49.0);
+        Check.that("drawable()", loft.drawable(), 49);
+        Check.that("draw(50)", loft.draw(50), 49);
+        Check.that("litresIn(1)", loft.litresIn(1), litres - 49 * 0.1);
+        Check.that("drawable() then", loft.drawable(), 0);
+    }
+
+    /** The bottles that empty a barrel are counted by the age that it had, with no other barrel left. */
+    private static void theAgeBeforeTheLastBottleCounts() {
+        VinegarLoft loft = withFiveOldLitres();
+        Check.holds("ripe", loft.ageOf(1) >= 18.0 && loft.ageOf(1) < 25.0);
+        loft.pourAway(0);
+        Check.that("draw(50)", loft.draw(50), 50);
+        Check.that("litresIn(1)", loft.litresIn(1), 0.0);
+        Check.that("oldest()", loft.oldest(), -1);
+        Check.that("bottles(RIPE)", loft.bottles(VinegarLoft.RIPE), 50);
+        Check.that("bottles(YOUNG)", loft.bottles(VinegarLoft.YOUNG), 0);
+    }
+
+    private static void anEmptyRowGivesNothing() {
+        VinegarLoft loft = aged(1, 100, 14);
+        Check.holds("there is something to draw", loft.drawable() > 0);
+        loft.pourAway(0);
+        Check.that("drawable() of an emptied row", loft.drawable(), 0);
+        Check.that("draw(1) of an emptied row", loft.draw(1), 0);
+        loft.year();
+        loft.fill(100);
+        Check.that("drawable() of new must", loft.drawable(), 0);
+    }
+
+    private static void ofSeveralOldestTheLastOneIsDrawnFrom() {
+        VinegarLoft loft = withTwentyOldLitres();
+        loft.year();
+        Check.that("the ages are the same", loft.ageOf(0), loft.ageOf(1));
+        double first = loft.litresIn(0);
+        double second = loft.litresIn(1);
+        loft.draw(3);
+        Check.that("litresIn(0)", loft.litresIn(0), first);
+        Check.that("litresIn(1)", loft.litresIn(1), second - 3 * 0.1);
+        loft.pourAway(1);
+        Check.that("oldest()", loft.oldest(), 0);
+        Check.that("drawable() from the other", loft.drawable(), 0);
+        loft.year();
+        Check.that("drawable() a year later", loft.drawable(), (int) (0.25 * loft.litresIn(0) / 0.1));
+    }
+
+    private static void whatIsFilledInLaterMayNotBeDrawn() {
+        VinegarLoft loft = aged(1, 100, 16);
+        int ready = loft.drawable();
+        loft.fill(5);
+        Check.holds("old enough", loft.ageOf(0) >= 12.0);
+        Check.that("drawable() after fill", loft.drawable(), ready);
     }
 }

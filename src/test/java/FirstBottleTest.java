@@ -7,6 +7,11 @@ public final class FirstBottleTest {
         theFirstBarrelIsFilledToTheBrim();
         oneBottleIsEnough();
         nothingChangesByAsking();
+        noneNowAndNoneLater();
+        oneBottleOfTheNextYearIsEnough();
+        anotherOldestBarrelMeansNextYear();
+        theWarmthStaysAsItIs();
+        allAnswersStayAsTheyAre();
         Check.end();
     }
 
@@ -96,7 +101,7 @@ public final class FirstBottleTest {
     private static void nothingChangesByAsking() {
         VinegarLoft asked = row(18, 60, 50, 40);
         VinegarLoft left = row(18, 60, 50, 40);
-        for (int i = 0; i < 40; i++) {
+        for (int i = 0; i < 18; i++) {
             asked.firstBottleIn();
             Check.that("fill", asked.fill(30), left.fill(30));
             asked.firstBottleIn();
@@ -118,5 +123,73 @@ public final class FirstBottleTest {
                 Check.that("bottles", asked.bottles(kind), left.bottles(kind));
             }
         }
+        Check.holds("bottles were drawn", left.bottles(0) > 0);
+    }
+
+    /** Nothing comes into a row without a first barrel, however many years go by. */
+    private static void noneNowAndNoneLater() {
+        VinegarLoft loft = new VinegarLoft();
+        for (int i = 0; i < 70; i++) {
+            loft.year();
+        }
+        Check.that("without barrels, after 70 years", loft.firstBottleIn(), -1);
+        loft.add(2, 10);
+        Check.that("with one barrel", loft.firstBottleIn(), livedThrough(row(18, 10)));
+    }
+
+    /** A last barrel of 0.5 litres, its share of this year drawn: next year it gives one bottle. */
+    private static void oneBottleOfTheNextYearIsEnough() {
+        VinegarLoft loft = Hair.lastAlone(40, 80);
+        double litres = loft.litresIn(Hair.LAST);
+        Check.holds("about a litre", litres > 0.6 && litres < 1.2);
+        int taken = loft.draw(1000);
+        litres = litres - taken * 0.1;
+        Check.holds("bottles were drawn", taken > 0);
+        Check.that("drawable()", loft.drawable(), 0);
+        double nextYear = 0.25 * (litres - litres * 0.02 * (1.0 + 0.05 * (40 - 18)));
+        Check.that("bottles next year", (int) (nextYear / 0.1), 1);
+        Check.that("firstBottleIn()", loft.firstBottleIn(), 1);
+    }
+
+    private static void anotherOldestBarrelMeansNextYear() {
+        VinegarLoft loft = Hair.lastAlone(18, 20);
+        Check.that("firstBottleIn() now", loft.firstBottleIn(), 0);
+        loft.add(0, 97);
+        loft.topUp();
+        Check.that("oldest()", loft.oldest(), 3);
+        Check.that("drawable()", loft.drawable(), 0);
+        Check.that("firstBottleIn() from another", loft.firstBottleIn(), 1);
+        loft.pourAway(3);
+        Check.that("firstBottleIn() from the same again", loft.firstBottleIn(), 0);
+    }
+
+    private static void theWarmthStaysAsItIs() {
+        for (int warmth : new int[] {0, 2, 18, 40}) {
+            VinegarLoft loft = row(warmth, 80, 60);
+            Check.that("firstBottleIn() at " + warmth, loft.firstBottleIn(), livedThrough(row(warmth, 80, 60)));
+            loft.fill(80);
+            double draught = warmth < 3 ? 0.2 : 1.0 + 0.05 * (warmth - 18);
+            Check.that("year() at " + warmth, loft.year(), 80.0 * 0.02 * draught);
+        }
+    }
+
+    private static void allAnswersStayAsTheyAre() {
+        VinegarLoft loft = Answers.wellUsed();
+        for (int i = 0; i < 6; i++) {
+            String before = Answers.of(loft);
+            int due = loft.firstBottleIn();
+            Check.that("answers after asking", Answers.of(loft), before);
+            Check.that("asked again", loft.firstBottleIn(), due);
+            if (i % 3 == 0) {
+                loft.year();
+            } else if (i % 3 == 1) {
+                loft.draw(2);
+            } else {
+                loft.topUp();
+            }
+        }
+        VinegarLoft bare = new VinegarLoft();
+        bare.firstBottleIn();
+        Check.that("a bare loft", Answers.of(bare), Answers.of(new VinegarLoft()));
     }
 }

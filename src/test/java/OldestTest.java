@@ -4,6 +4,9 @@ public final class OldestTest {
         emptyOnesDoNotCount();
         ofSeveralTheLastOne();
         theGreatestAge();
+        eachPlaceInTheRow();
+        olderByALastBit();
+        anEmptyOneBehindMustDoesNotCount();
         Check.end();
     }
 
@@ -70,5 +73,79 @@ public final class OldestTest {
         mixed.fill(100);
         mixed.topUp();
         Check.that("the middle one is the oldest", mixed.ageOf(1) > mixed.ageOf(0) ? 1 : 0, 1);
+    }
+
+    /** Three ages of must, the first, the middle or the last barrel being the oldest one. */
+    private static void eachPlaceInTheRow() {
+        VinegarLoft first = new VinegarLoft();
+        first.add(0, 100);
+        first.add(0, 90);
+        first.fill(100);
+        first.topUp();
+        first.year();
+        first.pourAway(0);
+        first.fill(100);
+        first.topUp();
+        Check.holds("mixed: 0 is younger", first.ageOf(1) > first.ageOf(0));
+        Check.that("the last one", first.oldest(), 1);
+
+        VinegarLoft middle = new VinegarLoft();
+        middle.add(0, 100);
+        middle.add(0, 50);
+        middle.add(0, 20);
+        middle.fill(10);
+        middle.topUp();
+        middle.topUp();
+        Check.holds("all have must", middle.litresIn(2) > 0.0);
+        for (int i = 0; i < 4; i++) {
+            middle.year();
+        }
+        middle.pourAway(2);
+        middle.pourAway(0);
+        middle.fill(100);
+        middle.topUp();
+        Check.holds("the middle one is between",
+            middle.ageOf(2) > middle.ageOf(1) && middle.ageOf(1) > middle.ageOf(0));
+        Check.that("the last one of three", middle.oldest(), 2);
+        middle.pourAway(2);
+        Check.that("the middle one", middle.oldest(), 1);
+        middle.pourAway(1);
+        Check.that("the first one", middle.oldest(), 0);
+    }
+
+    /** Must has the age 0.0 as an empty barrel has: that one does not count for all that. */
+    private static void anEmptyOneBehindMustDoesNotCount() {
+        VinegarLoft loft = new VinegarLoft();
+        loft.add(0, 100);
+        loft.add(0, 90);
+        loft.add(0, 80);
+        loft.fill(100);
+        Check.that("two empty ones behind must", loft.oldest(), 0);
+        loft.topUp();
+        Check.that("one empty one behind must", loft.oldest(), 1);
+        loft.pourAway(0);
+        Check.that("an empty one on either side", loft.oldest(), 1);
+    }
+
+    /** Mixing into an empty barrel may round the age down by a last bit: then the barrel ahead is the oldest one. */
+    private static void olderByALastBit() {
+        int ahead = 0;
+        int behind = 0;
+        for (int size = 11; size < 100; size++) {
+            VinegarLoft loft = new VinegarLoft();
+            loft.add(0, 100);
+            loft.add(1, size);
+            loft.fill(70);
+            for (int i = 0; i < 7; i++) {
+                loft.year();
+            }
+            loft.fill(9);
+            loft.topUp();
+            boolean older = loft.ageOf(0) > loft.ageOf(1);
+            Check.that("oldest() of size " + size, loft.oldest(), older ? 0 : 1);
+            ahead += older ? 1 : 0;
+            behind += older ? 0 : 1;
+        }
+        Check.holds("both were met", ahead > 0 && behind > 0);
     }
 }

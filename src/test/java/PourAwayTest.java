@@ -4,6 +4,8 @@ public final class PourAwayTest {
         allIsPouredAway();
         theOthersStayAsTheyAre();
         wrongBarrels();
+        eachBarrelByItsNumber();
+        afterTheOldestAnotherIsTheOldest();
         Check.end();
     }
 
@@ -54,5 +56,43 @@ public final class PourAwayTest {
                 () -> loft.pourAway(barrel));
         }
         Check.that("litresIn(0) after wrong calls", loft.litresIn(0), 50.0);
+    }
+
+    private static void eachBarrelByItsNumber() {
+        VinegarLoft loft = new VinegarLoft();
+        for (int i = 0; i < 8; i++) {
+            loft.add(i % 4, 50 - i);
+        }
+        for (int i = 0; i < 12; i++) {
+            loft.fill(50);
+            loft.topUp();
+        }
+        for (int i = 7; i >= 0; i--) {
+            double litres = loft.litresIn(i);
+            Check.holds("barrel " + i + " is not empty", litres > 0.0);
+            Check.that("pourAway(" + i + ")", loft.pourAway(i), litres);
+            Check.that("pourAway(" + i + ") again", loft.pourAway(i), 0.0);
+            Check.that("oldest()", loft.oldest(), i - 1);
+        }
+    }
+
+    /** The oldest barrel's share of the year is no other barrel's: the new oldest one gives nothing yet. */
+    private static void afterTheOldestAnotherIsTheOldest() {
+        VinegarLoft loft = new VinegarLoft();
+        loft.add(1, 100);
+        loft.add(1, 60);
+        loft.fill(100);
+        loft.topUp();
+        for (int i = 0; i < 14; i++) {
+            loft.year();
+        }
+        Check.that("oldest()", loft.oldest(), 1);
+        Check.holds("there is something to draw", loft.drawable() > 0);
+        loft.pourAway(1);
+        Check.that("oldest() then", loft.oldest(), 0);
+        Check.that("drawable() then", loft.drawable(), 0);
+        Check.that("draw(1) then", loft.draw(1), 0);
+        loft.pourAway(0);
+        Check.that("oldest() of nothing", loft.oldest(), -1);
     }
 }

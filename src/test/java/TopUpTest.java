@@ -8,6 +8,12 @@ public final class TopUpTest {
         whatGoesIsMixed();
         aBarrelAtNineTenthsGetsNothing();
         nothingComesFromAnEmptyBarrel();
+        whatItLacksIsHalfOfWhatIsAhead();
+        atNineTenthsOfEachSizeNothingIsLacking();
+        theFirstBarrelIsNotToppedUp();
+        addedInTheOrderInWhichTheyWent();
+        anEmptyBarrelIsSteppedOver();
+        aLossOfAYearIsWhatItLacks();
         Check.end();
     }
 
@@ -117,5 +123,116 @@ public final class TopUpTest {
             Check.that("acidOf(1)", loft.acidOf(1), acid);
             Check.that("sugarOf(1)", loft.sugarOf(1), sugar);
         }
+    }
+
+    /** A barrel of 20 lacks 18.0: just half of 36.0, more than half of 35.0, less than half of 37.0. */
+    private static void whatItLacksIsHalfOfWhatIsAhead() {
+        double[][] aheadAndDue = {{35, 17.5}, {36, 18.0}, {37, 18.0}};
+        for (double[] pair : aheadAndDue) {
+            VinegarLoft loft = new VinegarLoft();
+            loft.add(0, 50);
+            loft.add(0, 20);
+            loft.fill((int) pair[0]);
+            Check.that("topUp() from " + pair[0], loft.topUp(), pair[1]);
+            Check.that("litresIn(0)", loft.litresIn(0), pair[0] - pair[1]);
+            Check.that("litresIn(1)", loft.litresIn(1), pair[1]);
+        }
+    }
+
+    /** Of each size: once it holds 0.9 times its size, nothing is lacking, however full the barrel ahead is. */
+    private static void atNineTenthsOfEachSizeNothingIsLacking() {
+        for (int size = 10; size < 100; size++) {
+            VinegarLoft loft = new VinegarLoft();
+            loft.add(2, 100);
+            loft.add(1, size);
+            double due = 0.9 * size;
+            for (int i = 0; i < 3; i++) {
+                loft.fill(100);
+                loft.topUp();
+            }
+            Check.that("litresIn(1) of " + size, loft.litresIn(1), due);
+            for (int i = 0; i < 3; i++) {
+                loft.fill(100);
+                Check.that("topUp() at 0.9 of " + size, loft.topUp(), 0.0);
+                Check.that("litresIn(0)", loft.litresIn(0), 100.0);
+                loft.year();
+                double left = due - due * 0.03 * 1.0;
+                loft.fill(100);
+                Check.that("topUp() below 0.9 of " + size, loft.topUp(), due - left);
+                Check.that("litresIn(1) again", loft.litresIn(1), due);
+            }
+        }
+    }
+
+    private static void theFirstBarrelIsNotToppedUp() {
+        VinegarLoft loft = new VinegarLoft();
+        loft.add(0, 60);
+        loft.add(0, 50);
+        loft.fill(60);
+        loft.topUp();
+        loft.pourAway(0);
+        Check.that("topUp()", loft.topUp(), 0.0);
+        Check.that("litresIn(0)", loft.litresIn(0), 0.0);
+        Check.that("litresIn(1)", loft.litresIn(1), 30.0);
+    }
+
+    /** From the last barrel on: summed the other way round, a last bit would differ here and there. */
+    private static void addedInTheOrderInWhichTheyWent() {
+        int apart = 0;
+        VinegarLoft loft = new VinegarLoft();
+        for (int i = 0; i < 6; i++) {
+            loft.add(i % 4, 97 - 13 * i);
+        }
+        loft.setWarmth(27);
+        for (int year = 0; year < 40; year++) {
+            loft.fill(100);
+            double[] before = new double[6];
+            for (int i = 0; i < 6; i++) {
+                before[i] = loft.litresIn(i);
+            }
+            double[] went = new double[6];
+            double due = 0.0;
+            for (int i = 5; i > 0; i--) {
+                double lack = 0.9 * (97 - 13 * i) - before[i];
+                double most = 0.5 * before[i - 1];
+                went[i] = lack <= 0.0 ? 0.0 : lack < most ? lack : most;
+                before[i - 1] = before[i - 1] - went[i];
+                due = due + went[i];
+            }
+            double other = 0.0;
+            for (int i = 1; i < 6; i++) {
+                other = other + went[i];
+            }
+            Check.that("topUp() in year " + year, loft.topUp(), due);
+            apart += due == other ? 0 : 1;
+            loft.year();
+        }
+        Check.holds("the order shows somewhere", apart > 0);
+    }
+
+    private static void anEmptyBarrelIsSteppedOver() {
+        VinegarLoft loft = new VinegarLoft();
+        loft.add(0, 40);
+        loft.add(0, 30);
+        loft.add(0, 20);
+        loft.fill(40);
+        Check.that("topUp() with an empty one between", loft.topUp(), 20.0);
+        Check.that("litresIn(1)", loft.litresIn(1), 20.0);
+        Check.that("litresIn(2)", loft.litresIn(2), 0.0);
+        Check.that("ageOf(2)", loft.ageOf(2), 0.0);
+        Check.that("acidOf(2)", loft.acidOf(2), 0.0);
+        Check.that("sugarOf(2)", loft.sugarOf(2), 0.0);
+    }
+
+    private static void aLossOfAYearIsWhatItLacks() {
+        VinegarLoft loft = new VinegarLoft();
+        loft.add(0, 100);
+        loft.add(3, 20);
+        loft.fill(100);
+        loft.topUp();
+        loft.year();
+        double left = 18.0 - 18.0 * 0.025 * 1.0;
+        Check.that("topUp()", loft.topUp(), 18.0 - left);
+        Check.that("litresIn(1)", loft.litresIn(1), left + (18.0 - left));
     }
 }

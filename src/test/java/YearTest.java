@@ -10,6 +10,11 @@ public final class YearTest {
         sugarStopsAtSeventy();
         acidGrowsSlowlyAtTheEnd();
         wrongWarmth();
+        theWarmthIsEighteenAtFirst();
+        theWarmthCountsFromThenOn();
+        theLeastAndTheGreatestWarmth();
+        theOrderOfTheLossShows();
+        anEmptyRowHasYearsToo();
         Check.end();
     }
 
@@ -130,5 +135,77 @@ public final class YearTest {
                 () -> loft.setWarmth(degrees));
         }
         Check.that("warmth after wrong calls", loft.year(), 100.0 * 0.02 * (1.0 + 0.05 * (40 - 18)));
+    }
+
+    private static void theWarmthIsEighteenAtFirst() {
+        VinegarLoft loft = new VinegarLoft();
+        loft.add(0, 100);
+        loft.fill(100);
+        Check.that("year() of a new loft", loft.year(), 100.0 * 0.02 * 1.0);
+    }
+
+    private static void theWarmthCountsFromThenOn() {
+        VinegarLoft loft = filled(3, 90, 30);
+        double litres = 90.0;
+        for (int warmth : new int[] {30, 5, 5, 40, 0, 18}) {
+            loft.setWarmth(warmth);
+            for (int i = 0; i < 2; i++) {
+                double draught = 1.0 + 0.05 * (warmth - 18);
+                double lost = litres * 0.025 * (draught < 0.2 ? 0.2 : draught);
+                Check.that("year() at " + warmth, loft.year(), lost);
+                litres = litres - lost;
+                Check.that("litresIn at " + warmth, loft.litresIn(0), litres);
+            }
+        }
+        loft.setWarmth(1);
+        loft.setWarmth(37);
+        Check.that("the warmth set last", loft.year(), litres * 0.025 * (1.0 + 0.05 * (37 - 18)));
+    }
+
+    private static void theLeastAndTheGreatestWarmth() {
+        Check.that("at 0", filled(1, 64, 0).year(), 64.0 * 0.03 * 0.2);
+        Check.that("at 1", filled(1, 64, 1).year(), 64.0 * 0.03 * 0.2);
+        Check.that("at 2", filled(1, 64, 2).year(), 64.0 * 0.03 * 0.2);
+        Check.that("at 3", filled(1, 64, 3).year(), 64.0 * 0.03 * (1.0 + 0.05 * (3 - 18)));
+        Check.that("at 40", filled(1, 64, 40).year(), 64.0 * 0.03 * (1.0 + 0.05 * (40 - 18)));
+        Check.holds("the draught at 2 would be a hair below 0.2", 1.0 + 0.05 * (2 - 18) < 0.2);
+    }
+
+    /** Summed from the last barrel on, a last bit would differ here and there. */
+    private static void theOrderOfTheLossShows() {
+        VinegarLoft loft = filled(0, 97, 23);
+        double[] shares = {0.02, 0.03, 0.035, 0.025};
+        for (int i = 1; i < 4; i++) {
+            loft.add(i, 97 - 20 * i);
+        }
+        int apart = 0;
+        double draught = 1.0 + 0.05 * (23 - 18);
+        for (int year = 0; year < 40; year++) {
+            loft.fill(100);
+            loft.topUp();
+            double due = 0.0;
+            double other = 0.0;
+            for (int i = 0; i < 4; i++) {
+                due = due + loft.litresIn(i) * shares[i] * draught;
+                other = other + loft.litresIn(3 - i) * shares[3 - i] * draught;
+            }
+            Check.that("year() " + year, loft.year(), due);
+            apart += due == other ? 0 : 1;
+        }
+        Check.holds("the order shows somewhere", apart > 0);
+    }
+
+    private static void anEmptyRowHasYearsToo() {
+        VinegarLoft loft = filled(0, 50, 18);
+        loft.pourAway(0);
+        Check.that("year() of an emptied row", loft.year(), 0.0);
+        Check.that("ageOf", loft.ageOf(0), 0.0);
+        Check.that("sugarOf", loft.sugarOf(0), 0.0);
+        Check.that("acidOf", loft.acidOf(0), 0.0);
+        Check.that("years()", loft.years(), 1);
+        loft.draw(1);
+        loft.topUp();
+        loft.fill(1);
+        Check.that("years() after other calls", loft.years(), 1);
     }
 }
